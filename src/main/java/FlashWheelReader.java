@@ -398,7 +398,7 @@ public final class FlashWheelReader {
         int changes;
 
         Wheel() {
-            for (int cell = 0; cell < 12; cell += 3) marks[cell] = 1;
+            for (int cell = 0; cell < cells; cell += 3) put(marks, cell, 1);
         }
 
         void copyFrom(Wheel other) {
