@@ -444,7 +444,7 @@ public final class FlashWheelReader {
 
         boolean isSameTurnedBy(int way) {
             for (int cell = 0; cell + way < cells; cell++) {
-                if (markOf(cell) != markOf(cell + way)) return false;
+                if (at(marks, cell) != at(marks, cell + way)) return false;
             }
             return true;
         }

@@ -10,6 +10,7 @@ public final class ReadingTest {
         dropping();
         limits();
         fitting();
+        ends();
         nearness();
         oddOnes();
         bestPeriods();
@@ -137,6 +138,21 @@ public final class ReadingTest {
         due("candidate(0) of none", x.candidate(0), NONE);
     }
 
+    private static void ends() {
+        FlashWheelReader x = new FlashWheelReader();
+        x.setLimit(7);
+        due("candidates() up to the limit", x.candidates(), 15);
+        due("candidate(0), minus the limit", x.candidate(0), -7);
+        due("candidate(14), the limit", x.candidate(14), 7);
+        due("candidate(15)", x.candidate(15), NONE);
+        due("nearest(1000)", x.nearest(1000), 7);
+        due("nearest(-1000)", x.nearest(-1000), -7);
+        due("bestPeriod(1, true)", x.bestPeriod(1, true), 5);
+        x.read(1, 0);
+        // -6, -3, 0, 3 and 6, all with the remainder 0
+        due("bestPeriod(1, true) of one remainder", x.bestPeriod(1, true), 5);
+    }
+
     private static void nearness() {
         FlashWheelReader x = twelve();
         int[] wanted = {-1000, -19, -14, -13, -12, -8, -7, -1, 0, 5, 10, 11, 12, 23, 24, 30, 1000};
@@ -164,6 +180,11 @@ public final class ReadingTest {
         x.dropReading(4);
         x.dropReading(2);
         due("odd() with candidates again", x.odd(), STATE);
+        x.setLimit(5);
+        due("candidates()", x.candidates(), 1);
+        due("odd() with one candidate", x.odd(), STATE);
+        x.read(1, 0);
+        due("odd() without which one candidate is left", x.odd(), 3);
         x = new FlashWheelReader();
         x.read(1, 0);
         x.read(1, 1);
