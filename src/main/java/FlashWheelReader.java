@@ -639,10 +639,10 @@ public final class FlashWheelReader {
 
         int nearestTo(int wanted) {
             int best = NONE;
-            int least = Integer.MAX_VALUE;
+            int least = 0;
             for (int speed = -limit; speed <= limit; speed++) {
                 int distance = Math.abs(speed - wanted);
-                if (distance < least && has(speed)) {
+                if ((best == NONE || distance < least) && has(speed)) {
                     least = distance;
                     best = speed;
                 }

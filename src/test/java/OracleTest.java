@@ -13,10 +13,12 @@ import java.util.TreeMap;
  */
 public final class OracleTest {
     private static final int BAD = -1001, STATE = -1002, FULL = -1003, NONE = -1004;
-    private static final int RUNS = 300;
-    private static final int CALLS = 160;
+    private static final int RUNS = 500;
+    /** A text and what follows it may still be read behind this many calls, and an object is promised for 512 alone. */
+    private static final int CALLS = 400;
     private static final Dues DUES = new Dues("OracleTest");
     private static long drawn;
+    private static int made;
 
     public static void main(String[] args) {
         for (int run = 0; run < RUNS; run++) run(run);
@@ -25,9 +27,10 @@ public final class OracleTest {
 
     private static void run(int run) {
         drawn = run * 7919L + 17;
+        made = 0;
         FlashWheelReader x = new FlashWheelReader();
         Slow slow = new Slow();
-        for (int call = 0; call < CALLS; call++) {
+        for (int call = 0; made < CALLS; call++) {
             int method = draw(0, 32);
             int a = draw(-2, 9);
             int b = draw(-2, 9);
@@ -133,6 +136,7 @@ public final class OracleTest {
     }
 
     private static void due(int run, int call, String name, long got, long want) {
+        made++;
         DUES.due("run " + run + ", call " + call + ": " + name, got, want);
     }
 
